@@ -5,6 +5,7 @@ public final class DaysTest {
     public static void main(String[] args) {
         daysWithAPayment();
         nothingIsPaid();
+        everyPayerAndPayee();
         orderOfADay();
         debtIsRepaid();
         bank();
@@ -61,6 +62,27 @@ public final class DaysTest {
         due("10: go(6)", x.go(6), 20);
         due("10: nobody PAID", x.now(7), 0);
         due("10: no coin is WORN", x.now(6), 0);
+    }
+
+    private static void everyPayerAndPayee() {
+        for (int payer = 0; payer < 8; payer++) {
+            for (int payee = 0; payee < 8; payee++) {
+                int price = payee == 0 ? 1 : 90 + payee;
+                WinkPurses x = new WinkPurses();
+                for (int i = 0; i < 8; i++) {
+                    x.person(1, 0);
+                    x.change(i, 2, 9);
+                }
+                x.list(0, 1000 * payer + 100 * payee + price);
+                x.go(1);
+                for (int i = 0; i < 8; i++) {
+                    String name = "10: " + payer + " pays " + payee + ": of(" + i;
+                    due(name + ", 5)", x.of(i, 5), i == payer && payer != payee ? 1 : 0);
+                    int takes = price + price / 5;
+                    due(name + ", 6)", x.of(i, 6), 171 + (payer == payee ? 0 : i == payee ? takes : i == payer ? price / 10 - price : 0));
+                }
+            }
+        }
     }
 
     private static void orderOfADay() {
@@ -317,6 +339,11 @@ public final class DaysTest {
         due("26: market(20)", x.market(20), 5);
         due("10: go(20)", x.go(20), Finding.STATE);
         due("10: go(61)", x.go(61), Finding.BEYOND);
+        due("26: market(20)", x.market(20), Finding.STATE);
+        x.image();
+        due("26: market(19)", x.market(19), 5);
+        due("26: DAY", x.now(0), 99999);
+        due("40: undo()", x.undo(), 99980);
         due("10: go(19)", x.go(19), 5);
         due("10: DAY", x.now(0), 99999);
         due("10: go(1)", x.go(1), Finding.STATE);

@@ -34,6 +34,10 @@ public final class HowToPayTest {
         x.change(0, 3, 5);
         due("17: a DEBT that is repaid", x.priceFor(0, 1), 16);
         due("17: a DEBT now", x.priceFor(0, 0), Finding.NONE);
+        x.change(0, 3, 21);
+        due("17: but for no PRICE", x.priceFor(0, 1), 0);
+        x.change(0, 3, 22);
+        due("17: not even then", x.priceFor(0, 1), Finding.NONE);
         x.change(0, 3, 500);
         due("17: a DEBT that stays", x.priceFor(0, 60), Finding.NONE);
         due("17: place 6", x.priceFor(6, 1), Finding.BEYOND);
@@ -78,6 +82,7 @@ public final class HowToPayTest {
         x.person(5, 20);
         due("19: no day", x.kindFor(0, 0), 0);
         due("19: ten days", x.kindFor(0, 10), 6);
+        due("19: sixty days", x.kindFor(0, 60), 6);
         x.change(0, 2, 100);
         due("19: many SLOW ones", x.kindFor(0, 1), 3);
         x.change(0, 2, 40);

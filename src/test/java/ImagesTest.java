@@ -4,6 +4,7 @@ public final class ImagesTest {
 
     public static void main(String[] args) {
         imageKeepsTheTown();
+        newOnesAreNew();
         tapeAndSheetsStay();
         theLatestCounts();
         tearing();
@@ -61,6 +62,28 @@ public final class ImagesTest {
         x.image();
         x.go(8);
         due("40: DAY", x.undo(), 9);
+    }
+
+    private static void newOnesAreNew() {
+        WinkPurses x = new WinkPurses();
+        x.person(0, 1);
+        x.image();
+        x.person(6, 999);
+        for (int what = 2; what < 6; what++) {
+            x.change(1, what, 9);
+        }
+        x.undo();
+        due("40: who went has no DEBT", x.now(4), 0);
+        due("40: nor a PURSE", x.now(1), 1);
+        due("40: nor a coin", x.now(6), 0);
+        due("40: isn't the richest", x.now(5), 0);
+        due("40: forges nothing", x.forged(1), Finding.NONE);
+        due("40: is nobody", x.of(1, 0), Finding.BEYOND);
+        due("5: a new one", x.person(2, 3), 1);
+        int[] want = {2, 3, 0, 0, 0, 0};
+        for (int what = 0; what < 6; what++) {
+            due("5: of(1, " + what + ")", x.of(1, what), want[what]);
+        }
     }
 
     private static void tapeAndSheetsStay() {

@@ -11,6 +11,7 @@ public final class TextTest {
         faults();
         faultsOfNumbers();
         faultsOfBytes();
+        oneTextBehindAnother();
         theNinth();
         aFaultChangesNothing();
         CHECK.finish();
@@ -145,6 +146,12 @@ public final class TextTest {
         dueFault("personsmall 5", 0);
         dueFault("persons", 0);
         dueFault("perso", 0);
+        dueFault("personz", 0);
+        dueFault("persona", 0);
+        dueFault("berson", 0);
+        dueFault("persom", 0);
+        dueFault("late 5", 0);
+        dueFault("person smell 5", 7);
         dueFault("small 5", 0);
         dueFault("5", 0);
         dueFault("person small", 12);
@@ -205,6 +212,21 @@ public final class TextTest {
         dueFault("rate 5 " + (char) 255, 7);
         dueFault("person" + (char) 160 + "small 5", 6);
         dueFault("" + (char) 225 + (char) 233, 0);
+    }
+
+    private static void oneTextBehindAnother() {
+        WinkPurses x = new WinkPurses();
+        due("31: many blanks", read(x, "rate 5              "), 1);
+        due("31: what stood there before doesn't count", read(x, "rate"), -1 - 4);
+        due("31: a long number", read(x, "rate 0000000000000007"), 1);
+        due("31: a short one", read(x, "rate 2"), 1);
+        due("31: RATE", x.set(0, 19), 2);
+        due("31: letters", read(x, "rate 7 curatecuratecurate"), -1 - 7);
+        due("31: fewer", read(x, "rate 7 ; curate"), 2);
+        due("31: nothing", read(x, ""), -1);
+        feedText(x, "rate ");
+        x.wipe();
+        due("30: wiped", read(x, "12"), -1);
     }
 
     private static void theNinth() {
