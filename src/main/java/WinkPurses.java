@@ -287,10 +287,7 @@ public final class WinkPurses {
     }
 
     public int coins(int v) {
-        if (!within(v, 0, MOST_SOUGHT) || town.rate < 1) {
-            return finding(BEYOND);
-        }
-        return v / town.rate + v % town.rate;
+        return within(v, 0, MOST_SOUGHT) ? town.fewestCoins(v) : finding(BEYOND);
     }
 
     // ---- told purses
@@ -946,6 +943,10 @@ public final class WinkPurses {
             return held;
         }
 
+        int fewestCoins(int v) {
+            return rate > 0 ? v / rate + v % rate : v;
+        }
+
         int placeOfDay() {
             return day % PLACES;
         }
@@ -1081,7 +1082,9 @@ public final class WinkPurses {
             place = 0;
             nextToken();
             for (int items = 1; items <= MOST_BYTES; items++) {
-                if (!readItem(target)) {
+                boolean isRight = isWord("pay") ? readPayment(target)
+                    : isWord("rate") ? readRate(target) : readPerson(target);
+                if (!isRight) {
                     break;
                 }
                 if (token == END) {
@@ -1093,16 +1096,6 @@ public final class WinkPurses {
                 nextToken();
             }
             return -1 - tokenStart;
-        }
-
-        private boolean readItem(Town target) {
-            if (isWord("pay")) {
-                return readPayment(target);
-            }
-            if (isWord("rate")) {
-                return readRate(target);
-            }
-            return readPerson(target);
         }
 
         private boolean readPerson(Town target) {
