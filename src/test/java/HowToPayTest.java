@@ -7,6 +7,7 @@ public final class HowToPayTest {
         rateForTells();
         kindForTells();
         smallForTells();
+        smallForTakesTheFewest();
         strikeTells();
         strikeTakesTheLeast();
         strikeTakesTheFewest();
@@ -123,6 +124,30 @@ public final class HowToPayTest {
         due("20: one -1", x.smallFor(-1, 1), Finding.BEYOND);
         due("20: n 41", x.smallFor(0, 41), Finding.BEYOND);
         due("20: n -1", x.smallFor(0, -1), Finding.BEYOND);
+    }
+
+    /** A judge's coin wears otherwise with one wink more, and so it owes with 103 what it doesn't with 102. */
+    private static void smallForTakesTheFewest() {
+        WinkPurses x = new WinkPurses();
+        x.set(0, 26);
+        x.person(4, 0);
+        x.person(6, 50);
+        x.person(5, 69);
+        x.change(0, 4, 52);
+        x.change(1, 2, 1);
+        x.change(1, 3, 2);
+        x.change(1, 4, 47);
+        x.change(2, 4, 47);
+        int[] payments = {1212, 2100, 1280, 2120, 2036, 160};
+        for (int i = 0; i < 6; i++) {
+            x.list(i, payments[i]);
+        }
+        due("20: the fewest", x.smallFor(0, 12), 102);
+        int[] smalls = {101, 102, 103};
+        for (int small : smalls) {
+            x.change(0, 1, small);
+            CHECK.dueTrue("20: DEBT with " + small, x.ahead(0, 3, 12) > 0 == (small != 102));
+        }
     }
 
     private static void strikeTells() {
