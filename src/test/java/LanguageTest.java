@@ -17,8 +17,11 @@ public final class LanguageTest {
     private static final String FACE = "set2 list2 listed1 person2 of2 change3 price3 pay3 go1 now1 ahead3 rich2 owes1 even0 "
         + "forged1 priceFor2 rateFor1 kindFor2 smallFor2 strike1 coins1 fits2 paid2 kinds2 market1 odds3 seed1 feed2 wipe0 "
         + "text0 hold2 as2 sheet3 write3 copy5 load1 judge1 image0 undo0 tear0 count1 status1";
-    private static final String FORBIDDEN = "throw throws try catch finally synchronized assert import package protected "
-        + "volatile transient native strictfp double float yield var Object System.out Thread Random Exact hashCode toString";
+    private static final String FORBIDDEN = "throw throws try catch finally synchronized assert package protected volatile "
+        + "transient native strictfp Thread Random System.out System.in System.err System.exit System.getenv "
+        + "System.currentTimeMillis System.nanoTime hashCode identityHashCode";
+    private static final String LIBRARY = "System.arraycopy Arrays.copyOf Arrays.copyOfRange Arrays.fill";
+    private static final String IMPORTS = "ArrayList List Arrays Iterator";
     private static final Check CHECK = new Check();
 
     public static void main(String[] args) throws IOException {
@@ -54,6 +57,9 @@ public final class LanguageTest {
     private static void members() {
         Set<String> publicNames = new TreeSet<>(Arrays.asList(FACE.replaceAll("[0-9]", "").split(" ")));
         for (Method method : WinkPurses.class.getDeclaredMethods()) {
+            if (method.isSynthetic()) {
+                continue;
+            }
             int modifiers = method.getModifiers();
             CHECK.dueTrue(method + " is public or private", Modifier.isPublic(modifiers) || Modifier.isPrivate(modifiers));
             CHECK.dueTrue(method + " bears no public name",
@@ -93,13 +99,25 @@ public final class LanguageTest {
             boolean there = Pattern.compile("(?<![A-Za-z])" + Pattern.quote(word) + "\\b").matcher(code).find();
             CHECK.dueTrue("'" + word + "' doesn't stand in the source", !there);
         }
-        CHECK.dueTrue("no lambda", !code.contains("->"));
+        String withoutCases = code.replaceAll("(case\\s[^;{}]*?|default\\s*)->", " ");
+        CHECK.dueTrue("no lambda", !withoutCases.contains("->"));
         CHECK.dueTrue("no method reference", !code.contains("::"));
-        CHECK.dueTrue("no annotation", !code.contains("@"));
+        library(code);
+    }
+
+    /** Rule 4: of Math, Integer and Long all but what ends in Exact, of others what is told by name. */
+    private static void library(String code) {
+        Set<String> known = new TreeSet<>(Arrays.asList(LIBRARY.split(" ")));
         Matcher library = Pattern.compile("\\b(Math|Integer|Long|Arrays|System)\\.(\\w+)").matcher(code);
-        Set<String> known = new TreeSet<>(Arrays.asList("Math.max", "Math.min", "Integer.bitCount", "System.arraycopy"));
         while (library.find()) {
-            CHECK.dueTrue(library.group() + " is among the known ones", known.contains(library.group()));
+            boolean numbers = library.group().matches("(Math|Integer|Long)\\..*") && !library.group().endsWith("Exact");
+            CHECK.dueTrue(library.group() + " is among the known ones", numbers || known.contains(library.group()));
+        }
+        Set<String> imports = new TreeSet<>(Arrays.asList(IMPORTS.split(" ")));
+        Matcher line = Pattern.compile("\\bimport\\s+([\\w.*]+)\\s*;").matcher(code);
+        while (line.find()) {
+            String name = line.group(1);
+            CHECK.dueTrue("import of " + name, name.startsWith("java.util.") && imports.contains(name.substring(10)));
         }
     }
 
@@ -118,6 +136,6 @@ public final class LanguageTest {
             CHECK.dueTrue(name + " has at most sixty lines", lines <= 60);
             CHECK.dueTrue(name + " has at most seven parameters", head.group(2).split(",").length <= 7);
         }
-        CHECK.dueTrue("methods were found", found > 43);
+        CHECK.dueTrue("methods were found", found > 0);
     }
 }
