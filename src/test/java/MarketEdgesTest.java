@@ -80,6 +80,16 @@ public final class MarketEdgesTest {
         EDGES.beyond("27: n, above", Scene::town, 0, 9, (x, v) -> x.odds(3, v, 0));
         EDGES.beyond("27: n, below", Scene::town, 0, 9, (x, v) -> x.odds(3, v, 1));
         EDGES.beyond("27: what", Scene::town, 0, 1, (x, v) -> x.odds(3, 1, v));
+        EDGES.beyond("27: what of the first", Scene::town, 0, 1, (x, v) -> x.odds(0, 1, v));
+        WinkPurses x = new WinkPurses();
+        for (int p = 0; p < 8; p++) {
+            x.person(0, 10 * p);
+        }
+        long[] above = {1, 11, 21, 31, 41, 51, 61, 71};
+        for (int p = 0; p < 8; p++) {
+            due("27: one of eight, above", x.odds(p, 1, 0), above[p]);
+            due("27: one of eight, below", x.odds(p, 1, 1), 100);
+        }
     }
 
     private static WinkPurses one(int kind, int small, int slow) {
@@ -101,6 +111,16 @@ public final class MarketEdgesTest {
         dueOdds("nine, a JUDGE with one less than RATE", 4, 18, 0, 9, 0, 1);
         dueOdds("one, a JUDGE with RATE", 4, 19, 0, 1, 11, 50);
         dueOdds("one, a JUDGE with a SLOW one", 4, 0, 1, 1, 11, 50);
+        int[] rates = {2, 7, 30};
+        for (int rate : rates) {
+            WinkPurses x = one(4, rate - 1, 0);
+            x.set(0, rate);
+            due("27: a JUDGE with one less than " + rate, x.odds(0, 1, 0), 0);
+            due("27: a JUDGE with one less than " + rate + ", below", x.odds(0, 1, 1), 1);
+            x.change(0, 1, rate);
+            due("27: a JUDGE with " + rate, x.odds(0, 2, 1), rate == 2 ? 400 : rate == 7 ? 100 : 10000);
+            due("27: a JUDGE with " + rate + ", above", x.odds(0, 1, 0), rate == 30 ? 33 : 1);
+        }
     }
 
     /** 27: all PRICES. */
