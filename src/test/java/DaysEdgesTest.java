@@ -15,11 +15,13 @@ public final class DaysEdgesTest {
         richWhomAndWhat();
         richWithin200Days();
         richTheFewest();
+        richWhateverItOwes();
         owesWhom();
         owesWithin200Days();
         owesTheFewest();
         evenWithin200Days();
         evenTheFewest();
+        evenOfEight();
         forgedFromNoneTo9999();
         forgedWithin200Days();
         EDGES.finish();
@@ -109,10 +111,7 @@ public final class DaysEdgesTest {
     /** 11: who has a DEBT, as a set. */
     private static void whoHasADebt() {
         for (int p = 0; p < 8; p++) {
-            WinkPurses x = new WinkPurses();
-            for (int i = 0; i < 8; i++) {
-                x.person(0, 9);
-            }
+            WinkPurses x = eight();
             due("11: nobody owes", x.now(4), 0);
             x.change(p, 3, 1);
             due("11: " + p + " owes 1", x.now(4), 1 << p);
@@ -142,6 +141,19 @@ public final class DaysEdgesTest {
         due("11: the least of three", x.now(5), 0);
         x.change(0, 3, 9999);
         due("11: a DEBT is none of its PURSE", x.now(5), 0);
+        for (int p = 0; p < 8; p++) {
+            WinkPurses y = eight();
+            y.change(p, 1, 10);
+            due("11: " + p + " of eight", y.now(5), p);
+        }
+    }
+
+    private static WinkPurses eight() {
+        WinkPurses x = new WinkPurses();
+        for (int p = 0; p < 8; p++) {
+            x.person(0, 9);
+        }
+        return x;
     }
 
     /** 12: whom, what 1 to 6, n 0 to 100. */
@@ -218,6 +230,17 @@ public final class DaysEdgesTest {
         due("13: the first time of two", x.rich(0, 11), 1);
         due("13: 12", x.rich(0, 12), 7);
         due("13: 10 now, and less later", x.rich(0, 10), 0);
+    }
+
+    /** 13: PURSE is SMALL and RATE times SLOW, and no less for a DEBT. */
+    private static void richWhateverItOwes() {
+        WinkPurses x = new WinkPurses();
+        Scene.add(x, 0, 0, 2, 3);
+        due("13: 38 now, though it owes 3", x.rich(0, 38), 0);
+        due("13: what it EARNS for 3 DAYS it repays", x.rich(0, 39), 4);
+        x.change(0, 3, 9999);
+        due("13: 38 now, though it owes 9999", x.rich(0, 38), 0);
+        due("13: never more then", x.rich(0, 39), Finding.NONE);
     }
 
     /** 14: whom. */
@@ -299,6 +322,20 @@ public final class DaysEdgesTest {
         due("15: even one DAY later", x.even(), 2);
         x.change(0, 3, 3);
         due("15: not ahead of the payment", x.even(), Finding.NONE);
+    }
+
+    /** 15: nobody, of eight, has a DEBT. */
+    private static void evenOfEight() {
+        EDGES.asked("15: nobody of eight owes", DaysEdgesTest::eight, 0, x -> x.even());
+        for (int p = 0; p < 8; p++) {
+            WinkPurses x = eight();
+            x.change(p, 3, 12);
+            due("15: " + p + " of eight owes", x.even(), 3);
+            x.change(7 - p, 3, 11);
+            due("15: and " + (7 - p), x.even(), 3);
+            x.change(p, 3, 210);
+            due("15: " + p + " owes too much", x.even(), Finding.NONE);
+        }
     }
 
     private static WinkPurses forgers(int first, int people) {

@@ -10,11 +10,14 @@ public final class HowToPayEdgesTest {
         priceForSixtyDays();
         rateForDays();
         rateForFromTwoTo30();
+        rateForAllTogether();
         kindForWhomAndDays();
         kindForTheLeast();
+        kindForOnesOwnPurse();
         smallForWhomAndDays();
         smallForFromNoneTo999();
         smallForFortyDays();
+        smallForWithGaps();
         strikeDays();
         strikeFromNobodyOn();
         strikeTwentyDays();
@@ -130,6 +133,28 @@ public final class HowToPayEdgesTest {
         EDGES.asked("18: a SLOW one, less 29", () -> judge(40, 1, 33), 30, x -> x.rateFor(1));
     }
 
+    /** 18: PURSES of all together: neither the richest one's alone, nor less what they owe. */
+    private static void rateForAllTogether() {
+        WinkPurses x = judge(100, 0, 1);
+        x.change(1, 1, 200);
+        x.change(1, 2, 1);
+        for (int rate = 2; rate <= 30; rate++) {
+            WinkPurses y = judge(100, 0, 1);
+            y.change(1, 1, 200);
+            y.change(1, 2, 1);
+            y.set(0, rate);
+            due("18: PURSES by " + rate, y.go(1), 303);
+            due("18: the richest by " + rate, y.of(1, 6), 202 + rate);
+        }
+        due("18: what the richest has more the JUDGE has less", x.rateFor(1), 2);
+        WinkPurses z = judge(0, 0, 1);
+        z.change(1, 2, 1);
+        due("18: whatever the JUDGE owes", z.rateFor(1), 30);
+        z.set(0, 30);
+        due("18: PURSES by 30", z.go(1), 31);
+        due("18: what the JUDGE owes by 30", z.now(2), 29);
+    }
+
     /** 19: whom, n (0 to 60). */
     private static void kindForWhomAndDays() {
         EDGES.beyond("19: one of seven", Scene::town, 0, 6, (x, v) -> x.kindFor(v, 1));
@@ -155,6 +180,24 @@ public final class HowToPayEdgesTest {
         EDGES.asked("19: a JUDGE, by the bank", () -> one(19, 59), 4, x -> x.kindFor(0, 2));
         EDGES.asked("19: a JUDGE, not yet", () -> one(19, 59), 3, x -> x.kindFor(0, 1));
         EDGES.asked("19: nothing can be more", () -> one(999, 999), 0, x -> x.kindFor(0, 60));
+    }
+
+    /** 19: its PURSE: neither those of all together, nor less what it owes. */
+    private static void kindForOnesOwnPurse() {
+        int[] debts = {98, 90, 98, 96, 96, 297, 40};
+        int[] others = {1, 10, 1, 3, 3, 1, 55};
+        for (int kind = 0; kind < 7; kind++) {
+            WinkPurses y = Scene.two(0, 0);
+            y.list(0, 199);
+            y.change(0, 0, kind);
+            y.go(1);
+            due("19: PURSE of kind " + kind, y.of(0, 6), 0);
+            due("19: DEBT of kind " + kind, y.of(0, 3), debts[kind]);
+            due("19: the other one's PURSE", y.of(1, 6), others[kind]);
+        }
+        WinkPurses x = Scene.two(0, 0);
+        x.list(0, 199);
+        due("19: a PURSE of nothing, whatever it owes", x.kindFor(0, 1), 0);
     }
 
     /** 20: whom, n (0 to 40). */
@@ -198,6 +241,29 @@ public final class HowToPayEdgesTest {
     private static void smallForFortyDays() {
         EDGES.asked("20: 39 DAYS", () -> keeper(0, 3, 10), 54, x -> x.smallFor(0, 39));
         EDGES.asked("20: 40 DAYS", () -> keeper(0, 3, 10), 63, x -> x.smallFor(0, 40));
+    }
+
+    /**
+     * 20: a JUDGE with 63 goes to the bank on DAY 1 too, so that its coin is less worn than with 64, and it GIVES less.
+     * With 62 it does as well, but has one too few.
+     */
+    private static void smallForWithGaps() {
+        WinkPurses x = new WinkPurses();
+        x.set(0, 4);
+        Scene.add(x, 4, 0, 0, 0, 52);
+        x.person(0, 76);
+        x.list(0, 118);
+        x.list(2, 138);
+        x.list(3, 117);
+        due("20: the fewest", x.smallFor(0, 4), 63);
+        int[] smalls = {62, 63, 64, 65, 66};
+        int[] worn = {48, 48, 50, 50, 48};
+        int[] debts = {1, 0, 1, 0, 0};
+        for (int i = 0; i < smalls.length; i++) {
+            x.change(0, 1, smalls[i]);
+            due("20: WORN with " + smalls[i], x.ahead(0, 4, 2), worn[i]);
+            due("20: DEBT with " + smalls[i], x.ahead(0, 3, 4), debts[i]);
+        }
     }
 
     /** 21: n (0 to 20). */

@@ -26,6 +26,7 @@ public final class SheetsEdgesTest {
         loadBeyond();
         loadFromNoneToSix();
         loadEndsAtTheFirst();
+        loadLeavesTheOtherPlaces();
         judgeBeyond();
         judgeFromNoneToMoreThanPeople();
         judgeThePlace();
@@ -436,6 +437,28 @@ public final class SheetsEdgesTest {
         due("37: of 8 bits", y.load(0), 1);
         Scene.tell(y, 0, 16, 7799, 65536 + 7799, 7800);
         due("37: of 16 bits", y.load(0), 2);
+    }
+
+    /** 37: a place for which no number came stays as it was. */
+    private static void loadLeavesTheOtherPlaces() {
+        int[] were = {107, 1203, 1234, 3405, 4506, 5601};
+        for (int n = 0; n <= 6; n++) {
+            WinkPurses x = Scene.town();
+            x.sheet(2, 16, n);
+            WinkPurses y = Scene.town();
+            y.sheet(2, 16, n + 1);
+            y.write(2, n, -1);
+            for (int i = 0; i < n; i++) {
+                x.write(2, i, 7650 + i);
+                y.write(2, i, 7650 + i);
+            }
+            due("37: " + n + " of a town's", x.load(2), n);
+            due("37: " + n + " and one that is none", y.load(2), n);
+            for (int i = 0; i < 6; i++) {
+                due("37: " + n + " came: listed(" + i + ")", x.listed(i), i < n ? 7650 + i : were[i]);
+                due("37: " + n + " came, one didn't: listed(" + i + ")", y.listed(i), i < n ? 7650 + i : were[i]);
+            }
+        }
     }
 
     /** 38: BEYOND: no such sheet. MISSING. */

@@ -27,6 +27,7 @@ public final class TermsEdgesTest {
         bankOfOthers();
         bankWhenFull();
         bankWears();
+        allOfEight();
         placesOfTheList();
         oneOfWhomThereIsNone();
         draws();
@@ -468,6 +469,19 @@ public final class TermsEdgesTest {
             dayOf("often, WORN " + before[i], 19, 1, has(190, 0, 0, before[i], 0), 0, 10, 0, after[i], 0);
             dayOf("never, WORN " + before[i], 19, 1, has(18, 0, 0, before[i], 0), 18, 0, 0, before[i], 0);
         }
+    }
+
+    /** PEOPLE by numbers: each of eight EARNS, repays and goes to the bank. */
+    private static void allOfEight() {
+        WinkPurses x = new WinkPurses();
+        for (int p = 0; p < 8; p++) {
+            Scene.add(x, 6, 20 + p, p, 1, 3 + p, p);
+        }
+        x.go(1);
+        for (int p = 0; p < 8; p++) {
+            dueOne(p + " of eight", x, p, has(5 + p, p + 1, 0, 1 + p, p));
+        }
+        due("FALSE by eight", x.now(3), 40);
     }
 
     /** One PAYMENT for DAY modulo 6. */

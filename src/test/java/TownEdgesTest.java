@@ -8,6 +8,7 @@ public final class TownEdgesTest {
         falseOnes();
         placesOfTheList();
         everyPayment();
+        paymentsOfThoseWhoAreNotThere();
         kindsAndSmallOfANewOne();
         atMostEight();
         aNewOneIsAsAtFirst();
@@ -129,6 +130,22 @@ public final class TownEdgesTest {
             Integer.MAX_VALUE};
         for (int payment : wrong) {
             EDGES.refused("3: list(2, " + payment + ")", Scene::town, Finding.BEYOND, y -> y.list(2, payment));
+        }
+    }
+
+    /** 3: PAYER and PAYEE are 0 to 7, whether or not there is such a one. */
+    private static void paymentsOfThoseWhoAreNotThere() {
+        int[] payments = {199, 1099, 1199, 1299, 7699, 7799};
+        for (int people = 0; people <= 8; people++) {
+            WinkPurses x = new WinkPurses();
+            for (int p = 0; p < people; p++) {
+                x.person(0, 20);
+            }
+            for (int i = 0; i < 6; i++) {
+                due("3: " + payments[i] + " with " + people, x.list(i, payments[i]), 100);
+                due("4: " + payments[i] + " with " + people, x.listed(i), payments[i]);
+            }
+            due("3: no finding with " + people, x.status(-1), 0);
         }
     }
 
